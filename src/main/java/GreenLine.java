@@ -400,19 +400,21 @@ public final class GreenLine {
         if (!isChannel(channel) || a < 0 || a >= b || b > TICKS) {
             return NO_VALUE;
         }
+        int low = lowest(channel, a, b);
+        int high = highest(channel, a, b);
         switch (what) {
             case 0:
-                return lowest(channel, a, b);
+                return low;
             case 1:
-                return highest(channel, a, b);
+                return high;
             case 2:
-                return rise(channel, a, b, 1);
+                return rise(channel, a, b, 1, low, high);
             case 3:
-                return wide(channel, a, b);
+                return wide(channel, a, b, low + high);
             case 4:
-                return leastRise(rise(channel, a, b, setup.pace));
+                return leastRise(rise(channel, a, b, setup.pace, low, high));
             case 5:
-                return greatestRise(rise(channel, a, b, setup.pace));
+                return greatestRise(rise(channel, a, b, setup.pace, low, high));
             default:
                 return NO_VALUE;
         }
@@ -434,28 +436,26 @@ public final class GreenLine {
         return high;
     }
 
-    private int wide(int channel, int a, int b) {
-        int middle = lowest(channel, a, b) + highest(channel, a, b);
+    private int wide(int channel, int a, int b, int lowAndHigh) {
         int count = 0;
         for (int tick = a; tick < b; tick++) {
-            if (2 * beam.outAt(channel, tick) >= middle) {
+            if (2 * beam.outAt(channel, tick) >= lowAndHigh) {
                 count++;
             }
         }
         return count;
     }
 
-    private int rise(int channel, int a, int b, int step) {
-        int low = lowest(channel, a, b);
-        int height = highest(channel, a, b) - low;
+    /** How far the foot and the shoulder of a rise are apart, looked at by this step. */
+    private int rise(int channel, int a, int b, int step, int low, int high) {
         int foot = NONE;
         for (int tick = a; tick < b && step > 0; tick += step) {
             int above = 10 * (beam.outAt(channel, tick) - low);
-            if (foot == NONE && above >= height) {
+            if (foot == NONE && above >= high - low) {
                 foot = tick;
             }
             // What is nine tenths up is one tenth up too, so the foot stands by now.
-            if (above >= 9 * height) {
+            if (above >= 9 * (high - low)) {
                 return tick - foot;
             }
         }
@@ -742,20 +742,6 @@ public final class GreenLine {
         boolean isEmpty() {
             return beginLength == 0 && holdLength == 0;
         }
-
-        void addToBegins(int sign) {
-            if (within(beginLength, 0, begins.length - 1)) {
-                begins[beginLength] = sign;
-                beginLength++;
-            }
-        }
-
-        void addToHolds(int sign) {
-            if (within(holdLength, 0, holds.length - 1)) {
-                holds[holdLength] = sign;
-                holdLength++;
-            }
-        }
     }
 
     /** Parts bytes into tokens. */
@@ -793,7 +779,7 @@ public final class GreenLine {
         }
 
         int byteAt(int place) {
-            return within(place, 0, length - 1) && place < bytes.length ? bytes[place] : NONE;
+            return 0 <= place && place < length && place < bytes.length ? bytes[place] : NONE;
         }
 
         void passLetters() {
@@ -1056,7 +1042,7 @@ public final class GreenLine {
             waits = Math.max(0, waits - 1);
             opened--;
             brackets--;
-            endOne();
+            unwind(BINDS_NEGATE);
         }
 
         void endClause() {
@@ -1090,17 +1076,17 @@ public final class GreenLine {
         }
 
         void emit(int sign) {
-            if (inBegin) {
-                program.addToBegins(sign);
-            } else {
-                program.addToHolds(sign);
+            if (inBegin && program.beginLength < program.begins.length) {
+                program.begins[program.beginLength] = sign;
+                program.beginLength++;
+            }
+            if (!inBegin && program.holdLength < program.holds.length) {
+                program.holds[program.holdLength] = sign;
+                program.holdLength++;
             }
         }
 
         static int strength(int sign) {
-            if (within(sign, UNLIKE, LESS)) {
-                return BINDS_RELATION;
-            }
             switch (sign) {
                 case OR:
                     return BINDS_OR;
@@ -1108,6 +1094,13 @@ public final class GreenLine {
                     return BINDS_AND;
                 case NOT:
                     return BINDS_NOT;
+                case LESS:
+                case AT_MOST:
+                case MORE:
+                case AT_LEAST:
+                case EQUAL:
+                case UNLIKE:
+                    return BINDS_RELATION;
                 case PLUS:
                 case MINUS:
                     return BINDS_SUM;
