@@ -981,10 +981,10 @@ public final class GreenLine {
                 fail(FAULT_NUMBER);
             } else if (sign == NUMBER) {
                 emit(scanner.number);
-                endOne();
+                wantsOne = false;
             } else if (within(sign, SINCE, NOW)) {
                 emit(sign);
-                endOne();
+                wantsOne = false;
             } else if (sign == OPEN || sign == MINUS || sign == NOT && mayNot) {
                 openUp(sign == MINUS ? NEGATE : sign);
             } else {
@@ -1003,11 +1003,6 @@ public final class GreenLine {
             }
             mayNot = sign == NOT;
             await(sign);
-        }
-
-        void endOne() {
-            wantsOne = false;
-            unwind(BINDS_NEGATE);
         }
 
         void takeBehindOne(int sign) {
@@ -1042,7 +1037,6 @@ public final class GreenLine {
             waits = Math.max(0, waits - 1);
             opened--;
             brackets--;
-            unwind(BINDS_NEGATE);
         }
 
         void endClause() {

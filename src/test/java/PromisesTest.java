@@ -225,6 +225,8 @@ public final class PromisesTest {
         x.part(0, 0, 10, 1, 0, 0);
         due("another part", x.out(0, 0), 55);
         due("the last tick", x.out(1, 1999), 0);
+        x.part(1, 0, 9, 1, 0, 1999);
+        due("the last tick", x.out(1, 1999), 9);
         due("tick 2000", x.out(0, 2000), NO_VALUE);
         due("tick -1", x.out(0, -1), NO_VALUE);
         due("channel 2", x.out(2, 0), NO_VALUE);
@@ -305,6 +307,18 @@ public final class PromisesTest {
         due("the tape stays", x.about(7), 11);
         due("it was not read", x.fault(0), 0);
         due("four texts", x.about(0), 4);
+        x = new GreenLine();
+        due("a fault with much open", tell(x, "hold 7;begin not not not not((((1+"), NONE);
+        due("nothing of it is left", tell(x, "begin not not not not((((1))))<2 and tick=6;"), 0);
+        x.by(0);
+        due("its trigger", x.swept(2000, 0), 6);
+        due("it holds nothing", tell(x, "begin tick=1 or since=5;"), 1);
+        x.by(1);
+        due("ready by no hold", x.swept(2000, 1), 1 + 200 + 5);
+        due("ten clauses", tell(x, "begin 1<1;".repeat(10)), 2);
+        due("and ten anew", tell(x, "hold 3;" + "begin 1<1;".repeat(9)), 3);
+        x.by(3);
+        due("the last text", x.swept(2000, NONE), 0);
         String longest = "begin 1<2;" + " ".repeat(290);
         due("300 bytes", tell(new GreenLine(), longest), 0);
         due("300 bytes of tokens", tell(new GreenLine(), "hold 0" + "+0".repeat(146) + " ;"), 0);
@@ -500,7 +514,8 @@ public final class PromisesTest {
             "tick=0", "line=0", "sweeps=0", "since=0", "now=0", "ahead=0", "other=0"};
         for (String ask : so) so(ask, true);
         String[] not = {"2<1", "1<1", "2<=1", "1>1", "1>=2", "3=4", "3#3", "not 1=1", "not 1=2 and 1=2",
-            "1=2 and 1=1", "1=2 or 1=2", "not not 1=2", "not 1=1 or 1=2", "1=2 and 1=1 or 1=2"};
+            "1=2 and 1=1", "1=2 or 1=2", "not not 1=2", "not 1=1 or 1=2", "(2+3)*4=14", "(2+3)*4=21", "1<0+1", "1+1<1", "2<1*2", "3-2-1=2",
+            "now+1=0", "1=2 and 1=1 or 1=2"};
         for (String ask : not) so(ask, false);
         GreenLine x = told("begin since=5;");
         due("since ahead of a first sweep", x.swept(31, 0), 5);
@@ -524,6 +539,7 @@ public final class PromisesTest {
         due("other", x.swept(100, 0), 17);
         x.probe(1, 1, 2, 16);
         due("other by its probe", x.swept(100, NONE), 0);
+        due("0 is a number", told("begin tick-6=0;").swept(100, 0), 6);
         x = told("begin ahead>0;");
         x.part(0, 0, 5, 1, 0, 0);
         due("ahead of tick 0", x.swept(100, 0), 1);
@@ -549,6 +565,12 @@ public final class PromisesTest {
         due("two sweeps", x.glow(21, 0, 8), 24);
         due("four sweeps", x.glow(61, 0, 8), 30);
         due("faded once more than drawn", x.glow(61, 1, 8), 14);
+        x.channel(0, 0, 10, -8);
+        due("the lowest row", x.glow(1, 0, 0), 16);
+        x.channel(0, 0, 10, 7);
+        due("the lowest row no more", x.glow(1, 0, 0), 0);
+        due("the last dot", x.glow(20, 19, 15), 16);
+        x.channel(0, 0, 10, 0);
         x.base(1, 5, 0);
         due("begins at T: not faded", x.glow(30, 1, 8), 16);
         due("begins below T", x.glow(31, 1, 8), 0);
@@ -576,6 +598,9 @@ public final class PromisesTest {
         due("chopped", x.lit(20, 1, 3), 1 << 11);
         due("chopped by ticks, not columns", x.lit(40, 1, 1), (1 << 6) + (1 << 11));
         due("dots", x.lit(20, 1, NONE), 20);
+        x.mode(2, 1);
+        due("chopped at each tick", x.lit(20, 1, 2), 1 << 6);
+        due("chopped at each tick", x.lit(20, 1, 3), 1 << 11);
         due("by 16", x.lit(20, 16, NONE), 20);
         due("by 17", x.lit(20, 17, NONE), 0);
         due("as far as T", x.lit(7, 1, NONE), 7);
@@ -630,6 +655,15 @@ public final class PromisesTest {
         int[][] others = {{-1, 0, 0}, {2, 0, 0}, {0, -1, NONE}, {0, 1001, NONE}, {0, 0, -2}};
         for (int[] p : others) due("others", x.otherwise(p[0], p[1], p[2]), NONE);
         x = new GreenLine();
+        x.part(0, 1, 1, 2, 1, 1);
+        x.base(1, 0, 16);
+        due("the least square, of height 1", x.otherwise(0, 0, 0), 20101);
+        due("its fellows: of period 2 alone", x.otherwise(0, 0, NONE), 1);
+        due("seen from another tick", x.otherwise(0, 1, 0), 20101);
+        x.part(0, 1, 5, 500, 1, 0);
+        due("the first sample is another", x.otherwise(0, 0, NONE), 0);
+        due("it is looked at no more", x.otherwise(0, 1, NONE), 1);
+        x = new GreenLine();
         x.part(0, 0, 5, 1, 0, 0);
         x.base(24, 0, 16);
         due("a period of 24, seen at its ticks 0, that are 1 behind from: the last", lastElse(x, 0), 242323);
@@ -660,6 +694,10 @@ public final class PromisesTest {
         due("one phase of ten", x.caught(0, 2000), 1);
         x.channel(0, 0, 1, 0);
         due("beyond the screen too", x.caught(0, 2000), 1);
+        x.mode(3, 1);
+        x.channel(1, 3, 1, 0);
+        due("against: channel 0 has it", x.caught(0, 2000), 1);
+        x.mode(0, 1);
         x.channel(0, 2, 1, 0);
         due("no channel has it", x.caught(0, 2000), 0);
         x.channel(1, 0, 1, 0);
@@ -682,6 +720,18 @@ public final class PromisesTest {
         x.clear(0);
         x.part(0, 1, 100, 500, 0, 0);
         due("no width", x.caught(0, 300), 0);
+        x.base(1, 1, 16);
+        x.clear(0);
+        for (int k = 0; k < 5; k++) x.part(0, 0, 0, 1, 0, 0);
+        x.part(0, 1, 100, 50, 1, 7);
+        due("by triggers that come too late", x.caught(0, 50), 0);
+        due("by the next spike, at the last tick but not at T", x.caught(0, 59), 0);
+        due("out is as it was", x.out(0, 7), 100);
+        due("out is as it was", x.out(0, 49), 0);
+        x.base(10, 0, 16);
+        x.by(NONE);
+        due("ticks 0, 10, .. 40", x.caught(0, 41), 5);
+        due("not T", x.caught(0, 40), 4);
     }
 
     private static void photo() {
@@ -779,6 +829,13 @@ public final class PromisesTest {
         int[] steps = {10, 40, 40, 10};
         for (int k = 0; k < 4; k++) x.part(0, 0, steps[k], 1, 0, k + 1);
         due("from just one tenth to just nine tenths", x.measure(0, 0, 5, 2), 2);
+        x.clear(0);
+        for (int k = 0; k < 4; k++) x.part(0, 0, steps[k], 1, 0, 2 * k + 1);
+        due("not by every second tick", x.measure(0, 0, 9, 2), 4);
+        due("from 10 on: 90 is not nine tenths of it", x.measure(0, 1, 9, 2), 4);
+        x.part(0, 0, -500, 1, 0, 6);
+        due("low is not of b", x.measure(0, 0, 6, 0), 0);
+        due("low is", x.measure(0, 0, 7, 0), -410);
     }
 
     private static void parting() {
@@ -795,7 +852,14 @@ public final class PromisesTest {
         due("alike: no dots", x.parting(2, 2, 21, 1), 0);
         due("pace is as it was", x.about(2), 10);
         due("signal is as it was", x.about(10), 3);
-        due("out is as it was", x.out(0, 5), 0);
+        x.parting(1, 2, 21, 0);
+        due("out is as it was", x.out(0, 20), 0);
+        x.base(10, 0, 1);
+        due("lit by 1 is enough", x.parting(1, 2, 21, 0), 2);
+        x.part(3, 0, 50, 1, 0, 380);
+        x.base(10, 0, 16);
+        due("the slowest pace", x.parting(3, 1, 381, 0), 20);
+        due("the slowest pace", x.parting(3, 1, 381, 1), 2);
         int[][] others = {{-1, 0, 1, 0}, {4, 0, 1, 0}, {0, -1, 1, 0}, {0, 4, 1, 0}, {0, 0, 0, 0}, {0, 0, 2001, 0},
             {0, 0, 1, -1}, {0, 0, 1, 2}};
         for (int[] p : others) due("others", x.parting(p[0], p[1], p[2], p[3]), NONE);
@@ -856,6 +920,12 @@ public final class PromisesTest {
         }
         x.base(1, 0, 16);
         due("the photograph", x.settings(1, 999, NONE), 0);
+        x.photo(2, 0);
+        due("the photograph", x.settings(1, 999, NONE), 160);
+        x.photo(0, 1);
+        due("another photograph", x.settings(1, 999, NONE), 0);
+        x.back();
+        x.base(1, 0, 16);
         x.photo(2, 0);
         due("of one column", x.settings(1, 999, NONE), 160);
         tell(x, "hold 10000;");
