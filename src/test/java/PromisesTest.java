@@ -315,6 +315,12 @@ public final class PromisesTest {
         due("it holds nothing", tell(x, "begin tick=1 or since=5;"), 1);
         x.by(1);
         due("ready by no hold", x.swept(2000, 1), 1 + 200 + 5);
+        GreenLine y = new GreenLine();
+        y.base(1, 0, 16);
+        tell(y, "hold 50;x");
+        due("nothing is held", tell(y, ""), 0);
+        y.by(0);
+        due("ready by no hold", y.swept(100, 1), 20);
         due("ten clauses", tell(x, "begin 1<1;".repeat(10)), 2);
         due("and ten anew", tell(x, "hold 3;" + "begin 1<1;".repeat(9)), 3);
         x.by(3);
@@ -570,6 +576,11 @@ public final class PromisesTest {
         x.channel(0, 0, 10, 7);
         due("the lowest row no more", x.glow(1, 0, 0), 0);
         due("the last dot", x.glow(20, 19, 15), 16);
+        x.channel(0, 0, 10, -8);
+        x.glow(1, 0, 0);
+        x.base(1, 1, 8);
+        due("each call begins in the dark", x.glow(1, 0, 0), 0);
+        due("each call begins in the dark", x.glow(2, 0, 0), 16);
         x.channel(0, 0, 10, 0);
         x.base(1, 5, 0);
         due("begins at T: not faded", x.glow(30, 1, 8), 16);
@@ -663,6 +674,10 @@ public final class PromisesTest {
         x.part(0, 1, 5, 500, 1, 0);
         due("the first sample is another", x.otherwise(0, 0, NONE), 0);
         due("it is looked at no more", x.otherwise(0, 1, NONE), 1);
+        x = new GreenLine();
+        x.part(0, 0, 5, 1, 0, 1);
+        x.base(1, 0, 16);
+        due("19 alike behind a first 0: on from 1 to 19 at least", x.otherwise(0, 0, 0), 201901);
         x = new GreenLine();
         x.part(0, 0, 5, 1, 0, 0);
         x.base(24, 0, 16);
@@ -832,6 +847,9 @@ public final class PromisesTest {
         x.clear(0);
         for (int k = 0; k < 4; k++) x.part(0, 0, steps[k], 1, 0, 2 * k + 1);
         due("not by every second tick", x.measure(0, 0, 9, 2), 4);
+        x.part(1, 0, 100, 1, 0, 7);
+        x.part(1, 0, 900, 1, 0, 10);
+        due("from an odd tick to an even one", x.measure(1, 0, 20, 2), 3);
         due("from 10 on: 90 is not nine tenths of it", x.measure(0, 1, 9, 2), 4);
         x.part(0, 0, -500, 1, 0, 6);
         due("low is not of b", x.measure(0, 0, 6, 0), 0);
