@@ -58,28 +58,10 @@ public final class PromisesTest {
         due(call, got ? 1 : 0, want ? 1 : 0);
     }
 
-    private static int feedOne(GreenLine x, String bytes) {
-        int[] row = new int[5];
-        for (int k = 0; k < 20; k++) {
-            int sign = k < bytes.length() ? bytes.charAt(k) : ' ';
-            row[k / 4] = row[k / 4] << 8 | sign;
-        }
-        return x.feed(row[0], row[1], row[2], row[3], row[4]);
-    }
-
-    /** Tells a text on an empty tape, by its bytes alone. */
-    private static int tell(GreenLine x, String text) {
-        for (int k = 0; k < text.length(); k += 20) {
-            feedOne(x, text.substring(k, Math.min(text.length(), k + 20)));
-        }
-        x.end(text.length());
-        return x.text();
-    }
-
     private static GreenLine told(String text) {
         GreenLine x = new GreenLine();
         x.base(1, 0, 16);
-        due("text \"" + text + "\"", tell(x, text), 0);
+        due("text \"" + text + "\"", Tape.tell(x, text), 0);
         due("by(0)", x.by(0), true);
         return x;
     }
@@ -262,7 +244,7 @@ public final class PromisesTest {
     private static void feed() {
         promise = "10 feed";
         GreenLine x = new GreenLine();
-        due("highest first", feedOne(x, "hold 7;"), 20);
+        due("highest first", Tape.feed(x, "hold 7;"), 20);
         due("read", x.text(), 0);
         due("signs beyond 127", x.feed(0x68_6F_6C_64, 0x20_FF_20_20, 0, 0, 0), 20);
         due("none", x.text(), NONE);
@@ -281,7 +263,7 @@ public final class PromisesTest {
         GreenLine x = new GreenLine();
         due("an empty tape", x.end(0), 0);
         due("more than it has", x.end(1), NONE);
-        feedOne(x, "hold 7;xx");
+        Tape.feed(x, "hold 7;xx");
         due("below 0", x.end(-1), NONE);
         due("too many", x.end(21), NONE);
         due("nothing is done", x.about(7), 20);
@@ -296,50 +278,50 @@ public final class PromisesTest {
         promise = "12 text";
         GreenLine x = new GreenLine();
         due("the empty text", x.text(), 0);
-        due("a text", tell(x, "hold 1;"), 1);
+        due("a text", Tape.tell(x, "hold 1;"), 1);
         due("the tape is empty", x.about(7), 0);
-        due("a fault", tell(x, "hold 1"), NONE);
+        due("a fault", Tape.tell(x, "hold 1"), NONE);
         due("the tape is empty then too", x.about(7), 0);
         due("two texts", x.about(0), 2);
-        due("a text", tell(x, " \n begin now > 1 ; \n"), 2);
-        due("a text", tell(x, "begin 1<2;"), 3);
-        due("the 5th", tell(x, "hold 10000;"), NONE);
+        due("a text", Tape.tell(x, " \n begin now > 1 ; \n"), 2);
+        due("a text", Tape.tell(x, "begin 1<2;"), 3);
+        due("the 5th", Tape.tell(x, "hold 10000;"), NONE);
         due("the tape stays", x.about(7), 11);
         due("it was not read", x.fault(0), 0);
         due("four texts", x.about(0), 4);
         x = new GreenLine();
-        due("a fault with much open", tell(x, "hold 7;begin not not not not((((1+"), NONE);
-        due("nothing of it is left", tell(x, "begin not not not not((((1))))<2 and tick=6;"), 0);
+        due("a fault with much open", Tape.tell(x, "hold 7;begin not not not not((((1+"), NONE);
+        due("nothing of it is left", Tape.tell(x, "begin not not not not((((1))))<2 and tick=6;"), 0);
         x.by(0);
         due("its trigger", x.swept(2000, 0), 6);
-        due("it holds nothing", tell(x, "begin tick=1 or since=5;"), 1);
+        due("it holds nothing", Tape.tell(x, "begin tick=1 or since=5;"), 1);
         x.by(1);
         due("ready by no hold", x.swept(2000, 1), 1 + 200 + 5);
         GreenLine y = new GreenLine();
         y.base(1, 0, 16);
-        tell(y, "hold 50;x");
-        due("nothing is held", tell(y, ""), 0);
+        Tape.tell(y, "hold 50;x");
+        due("nothing is held", Tape.tell(y, ""), 0);
         y.by(0);
         due("ready by no hold", y.swept(100, 1), 20);
-        due("ten clauses", tell(x, "begin 1<1;".repeat(10)), 2);
-        due("and ten anew", tell(x, "hold 3;" + "begin 1<1;".repeat(9)), 3);
+        due("ten clauses", Tape.tell(x, "begin 1<1;".repeat(10)), 2);
+        due("and ten anew", Tape.tell(x, "hold 3;" + "begin 1<1;".repeat(9)), 3);
         x.by(3);
         due("the last text", x.swept(2000, NONE), 0);
         String longest = "begin 1<2;" + " ".repeat(290);
-        due("300 bytes", tell(new GreenLine(), longest), 0);
-        due("300 bytes of tokens", tell(new GreenLine(), "hold 0" + "+0".repeat(146) + " ;"), 0);
+        due("300 bytes", Tape.tell(new GreenLine(), longest), 0);
+        due("300 bytes of tokens", Tape.tell(new GreenLine(), "hold 0" + "+0".repeat(146) + " ;"), 0);
     }
 
     private static void faulty(String text, int fault, int place) {
         GreenLine x = new GreenLine();
-        due("\"" + text + "\" is no text", tell(x, text), NONE);
+        due("\"" + text + "\" is no text", Tape.tell(x, text), NONE);
         due("\"" + text + "\" has the fault", x.fault(0), fault);
         due("\"" + text + "\" at the place", x.fault(1), place);
     }
 
     private static void sound(String text) {
         GreenLine x = new GreenLine();
-        due("\"" + text + "\" is a text", tell(x, text), 0);
+        due("\"" + text + "\" is a text", Tape.tell(x, text), 0);
         due("\"" + text + "\" has no fault", x.fault(0), 0);
         due("\"" + text + "\" has no place", x.fault(1), NONE);
     }
@@ -349,11 +331,11 @@ public final class PromisesTest {
         GreenLine x = new GreenLine();
         due("ahead of any", x.fault(0), NONE);
         due("ahead of any", x.fault(1), NONE);
-        tell(x, "x");
+        Tape.tell(x, "x");
         due("others", x.fault(2), NONE);
         due("others", x.fault(-1), NONE);
         due("a fault", x.fault(0), 1);
-        tell(x, "");
+        Tape.tell(x, "");
         due("the latest", x.fault(0), 0);
         due("the latest", x.fault(1), NONE);
         faultsOfPlace();
@@ -460,7 +442,7 @@ public final class PromisesTest {
         GreenLine x = new GreenLine();
         due("none", x.by(NONE), true);
         due("no text yet", x.by(0), false);
-        tell(x, "begin 1>2;");
+        Tape.tell(x, "begin 1>2;");
         due("0", x.by(0), true);
         due("told", x.about(1), 0);
         due("never", x.swept(2000, NONE), 0);
@@ -887,7 +869,7 @@ public final class PromisesTest {
         promise = "25 image";
         GreenLine x = new GreenLine();
         due("no texts", x.image(), 0);
-        tell(x, "hold 3;");
+        Tape.tell(x, "hold 3;");
         due("one text", x.image(), 1);
         x.part(1, 0, 5, 1, 0, 0);
         x.back();
@@ -904,7 +886,7 @@ public final class PromisesTest {
     private static void back() {
         promise = "26 back";
         GreenLine x = new GreenLine();
-        tell(x, "begin tick>3;");
+        Tape.tell(x, "begin tick>3;");
         x.by(0);
         x.part(0, 1, 30, 4, 2, 1);
         x.probe(0, 2, 1, 16);
@@ -918,7 +900,7 @@ public final class PromisesTest {
         for (int what = 0; what < 24; what++) kept[what] = x.about(what);
         int out = x.out(1, 9);
         for (int round = 0; round < 2; round++) {
-            tell(x, "begin tick>30;");
+            Tape.tell(x, "begin tick>30;");
             x.by(1);
             x.clear(0);
             x.part(2, 0, 1, 1, 0, 0);
@@ -946,25 +928,25 @@ public final class PromisesTest {
         x.base(1, 0, 16);
         x.photo(2, 0);
         due("of one column", x.settings(1, 999, NONE), 160);
-        tell(x, "hold 10000;");
-        feedOne(x, "hold");
+        Tape.tell(x, "hold 10000;");
+        Tape.feed(x, "hold");
         x.back();
         due("the tape stays as it is", x.about(7), 20);
         due("the latest fault too", x.fault(0), 2);
         due("the latest fault too", x.fault(1), 5);
         x.end(0);
-        due("a text told anew", tell(x, "hold 4;"), 1);
+        due("a text told anew", Tape.tell(x, "hold 4;"), 1);
     }
 
     private static void about() {
         promise = "27 about";
         GreenLine x = new GreenLine();
-        tell(x, "hold 3;");
-        tell(x, "hold 4;");
+        Tape.tell(x, "hold 3;");
+        Tape.tell(x, "hold 4;");
         x.by(1);
         x.base(11, 12, 13);
         x.mode(2, 14);
-        feedOne(x, "");
+        Tape.feed(x, "");
         x.channel(0, 2, 21, -3);
         x.channel(1, 3, 22, 4);
         x.part(0, 0, 1, 1, 1, 1);

@@ -143,11 +143,7 @@ public final class RandomRunsTest {
     private void feedText(String text) {
         int start = oracle.tape.length();
         for (int k = 0; k < text.length(); k += 20) {
-            int[] row = new int[5];
-            for (int j = 0; j < 20; j++) {
-                int sign = k + j < text.length() ? text.charAt(k + j) : ' ';
-                row[j / 4] = row[j / 4] << 8 | sign;
-            }
+            int[] row = Tape.row(text, k);
             same("feed " + k, line.feed(row[0], row[1], row[2], row[3], row[4]),
                     oracle.feed(row[0], row[1], row[2], row[3], row[4]));
         }
