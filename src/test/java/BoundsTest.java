@@ -12,8 +12,8 @@ import java.util.Comparator;
  */
 public final class BoundsTest {
 
-    private static final Class<?>[] TESTS = {ObjectBounds.class, SignalBounds.class, TextBounds.class, FaultBounds.class,
-        SweepBounds.class, GuessBounds.class};
+    private static final Class<?>[] TESTS = {ObjectBounds.class, SignalBounds.class, TextBounds.class,
+        FaultBounds.class, SweepBounds.class, GuessBounds.class};
 
     private static final Path DOCUMENT = Path.of("../shared/DOC.md");
 
@@ -32,7 +32,8 @@ public final class BoundsTest {
             Bounds.fact("promise " + promise + " is named", Bounds.promises.contains(promise));
         }
         if (Files.exists(DOCUMENT)) wordsThatNoTestNames(Files.readString(DOCUMENT));
-        System.out.println("BoundsTest: " + tests + " sentences, " + Bounds.right + " passed, " + Bounds.wrong + " failed");
+        System.out.println("BoundsTest: " + tests + " sentences, " + Bounds.right + " passed, "
+                + Bounds.wrong + " failed");
         if (Bounds.wrong > 0) System.exit(1);
     }
 

@@ -5,8 +5,8 @@ final class FaultBounds {
     }
 
     static void firstFault() {
-        Bounds.sentence(13, "FAULTS, the first as TOKENS are come to, at the TOKEN's first byte (of the end at the length),"
-                + " of one the least:");
+        Bounds.sentence(13, "FAULTS, the first as TOKENS are come to, at the TOKEN's first byte"
+                + " (of the end at the length), of one the least:");
         Bounds.faulty("hold 10000 x", 2, 5);
         Bounds.faulty("hold x 10000;", 1, 5);
         Bounds.faulty("hold ---------10000;", 3, 13);
@@ -31,20 +31,24 @@ final class FaultBounds {
 
     static void noPlace() {
         Bounds.sentence(13, "1 it can't stand there, or is none.");
-        String[] firsts = {"now", "1", "(", ")", "-", "+", "<", "=", "#", ";", "not", "and", "or", "!", "x", "beginhold"};
+        String[] firsts = {"now", "1", "(", ")", "-", "+", "<", "=", "#", ";", "not", "and", "or", "!", "x",
+            "beginhold"};
         for (String first : firsts) Bounds.faulty(first + " hold 1;", 1, 0);
         String[] ones = {";", ")", "+", "*", "/", "<", "<=", ">", ">=", "=", "#", "and", "or", "not", "hold", "begin",
             "?", "then", ""};
         for (String one : ones) Bounds.faulty("hold " + one, 1, 5);
-        String[] behindHold = {"(", ")", "<", "<=", ">", ">=", "=", "#", "and", "or", "not", "hold", "begin", "now", "7",
-            "?", "then", ""};
+        String[] behindHold = {"(", ")", "<", "<=", ">", ">=", "=", "#", "and", "or", "not", "hold", "begin", "now",
+            "7", "?", "then", ""};
         for (String behind : behindHold) Bounds.faulty("hold 1 " + behind, 1, 7);
         String[] behindBegin = {"(", ")", "and", "or", "not", "hold", "begin", "now", "7", "?", "then", "", ";"};
         for (String behind : behindBegin) Bounds.faulty("begin 1 " + behind, 1, 8);
-        String[] behindRelation = {"(", ")", "<", "<=", ">", ">=", "=", "#", "not", "hold", "begin", "now", "7", "?", ""};
+        String[] behindRelation = {"(", ")", "<", "<=", ">", ">=", "=", "#", "not", "hold", "begin", "now", "7", "?",
+            ""};
         for (String behind : behindRelation) Bounds.faulty("begin 1<2 " + behind, 1, 10);
         String[] inBrackets = {";", "(", "<", "=", "and", "or", "not", "7", ""};
         for (String in : inBrackets) Bounds.faulty("begin (1 " + in, 1, 9);
+        String[] noNots = {"(", "-", "1<", "1+", "1*", "(1-", "not (", "not -", "not 1<", "1<2 and (", "1<2 or -"};
+        for (String ahead : noNots) Bounds.faulty("begin " + ahead + " not", 1, 7 + ahead.length());
         Bounds.faulty("begin 1<2\u0000;", 1, 9);
         Bounds.faulty("begin 1<2\u00ff;", 1, 9);
     }

@@ -160,11 +160,14 @@ final class GuessBounds {
     }
 
     private static void caughts(int period, int width, int pace, int t, int due) {
-        GreenLine x = square(9, period, width, 1999, pace);
-        Bounds.due("of period " + period + ", width " + width + " by pace " + pace + " up to " + t, x.caught(0, t), due);
-        GreenLine y = square(9, period, width, 1999, pace);
-        for (int tick = 0; tick < 3; tick++) Bounds.due("from is as it was", x.raw(0, tick), y.raw(0, tick));
-        Bounds.due("out is as it was", x.out(0, 1998), y.out(0, 1998));
+        GreenLine x = square(9, period, width, 1998, pace);
+        Bounds.due("of period " + period + ", width " + width + " by pace " + pace + " up to " + t,
+                x.caught(0, t), due);
+        GreenLine y = square(9, period, width, 1998, pace);
+        for (int tick : new int[] {0, 1, 2, 3, 8, 9, 10, 498, 499, 1998, 1999}) {
+            Bounds.due("from is as it was, raw at " + tick, x.raw(0, tick), y.raw(0, tick));
+            Bounds.due("from is as it was, out at " + tick, x.out(0, tick), y.out(0, tick));
+        }
     }
 
     static void eachFrom() {
@@ -563,8 +566,9 @@ final class GuessBounds {
     // ---- parting
 
     static void partings() {
-        Bounds.sentence(24, "PARTING of SIGNALS s, u: the PACE 1 .. 20 by which, CHANNEL 0 having the one and then the other,"
-                + " SWEPT up to T, most dots are LIT by 1 in just one of both; of like ones the least.");
+        Bounds.sentence(24, "PARTING of SIGNALS s, u: the PACE 1 .. 20 by which, CHANNEL 0 having the one"
+                + " and then the other, SWEPT up to T, most dots are LIT by 1 in just one of both;"
+                + " of like ones the least.");
         GreenLine x = new GreenLine();
         x.part(0, 0, 50, 1, 0, 0);
         x.part(2, 0, 50, 1, 0, 380);
@@ -581,11 +585,14 @@ final class GuessBounds {
         x.base(1, 999, 0);
         parting(x, 0, 1, 999, 1, 0);
         parting(x, 0, 1, 1000, 1, 2);
-        // By pace 20 the TICK 380 is the last column's; by faster ones a later sweep's, whose dot both have from earlier.
+        // By pace 20 the TICK 380 is the last column's; by faster ones a later sweep's, whose dot both have already.
         x.base(21, 0, 16);
         parting(x, 2, 1, 381, 20, 2);
         x.base(21, 0, 0);
         parting(x, 2, 1, 381, 1, 2);
+        // By a PACE of 1 and FADE of 1 all 20 but the first have GLOW 1 at the second beginning.
+        x.base(21, 0, 1);
+        parting(x, 0, 1, 21, 1, 40);
         x = Bounds.told("begin sweeps=0;");
         x.part(2, 0, 50, 1, 0, 380);
         x.part(3, 0, 50, 1, 0, 399);
@@ -606,6 +613,9 @@ final class GuessBounds {
         Bounds.due("dots " + of, x.parting(one, other, t, 1), dots);
         Bounds.due("pace stays", x.about(2), paceAhead);
         Bounds.due("signal stays", x.about(10), signalAhead);
+        for (int tick : new int[] {0, 1, 379, 380, 398, 399, 400}) {
+            Bounds.due("out stays", x.out(0, tick), x.raw(signalAhead, tick));
+        }
     }
 
     static void partingAnswers() {

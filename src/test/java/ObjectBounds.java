@@ -12,7 +12,8 @@ final class ObjectBounds {
     }
 
     static void lastCall() {
-        Bounds.sentence(1, "An object is used for at most 512 calls after it has been made; what later calls answer is free.");
+        Bounds.sentence(1, "An object is used for at most 512 calls after it has been made;"
+                + " what later calls answer is free.");
         GreenLine x = new GreenLine();
         x.part(0, 0, 5, 1, 0, 7);
         for (int k = 0; k < 509; k++) x.swept(2000, k % 11 - 1);
@@ -39,8 +40,6 @@ final class ObjectBounds {
         Bounds.due("the tape", x.about(7), 0);
         Bounds.due("the tape", x.end(1), NONE);
         int[] first = about(x);
-        x = Bounds.busy();
-        x.by(NONE);
         GreenLine y = new GreenLine();
         Tape.tell(y, "begin tick>5;");
         y.by(0);
@@ -190,14 +189,15 @@ final class ObjectBounds {
                 + " 10 + channel: its SIGNAL, 12 + channel: GAIN, 14 + channel: POSITION, 20 + signal: PARTS."
                 + " NONE for others.");
         GreenLine x = new GreenLine();
-        int[] least = {0, NONE, 1, 0, 0, 0, 1, 0, NONE, NONE, 0, 0, 1, 1, -15, -15, NONE, NONE, NONE, NONE, 0, 0, 0, 0, NONE};
+        int[] least = {0, NONE, 1, 0, 0, 0, 1, 0, NONE, NONE, 0, 0, 1, 1, -15, -15, NONE, NONE, NONE, NONE, 0, 0, 0, 0,
+            NONE};
         x.base(1, 0, 0);
         x.mode(0, 1);
         x.channel(0, 0, 1, -15);
         x.channel(1, 0, 1, -15);
         for (int what = 0; what < least.length; what++) Bounds.due("least " + what, x.about(what), least[what]);
-        int[] greatest = {4, 3, 50, 999, 16, 3, 50, 300, NONE, NONE, 3, 3, 999, 999, 15, 15, NONE, NONE, NONE, NONE, 6, 6, 6,
-            6, NONE};
+        int[] greatest = {4, 3, 50, 999, 16, 3, 50, 300, NONE, NONE, 3, 3, 999, 999, 15, 15, NONE, NONE, NONE, NONE,
+            6, 6, 6, 6, NONE};
         x.base(50, 999, 16);
         x.mode(3, 50);
         x.channel(0, 3, 999, 15);
@@ -206,7 +206,9 @@ final class ObjectBounds {
         x.by(3);
         for (int k = 0; k < 15; k++) Tape.feed(x, "");
         for (int k = 0; k < 24; k++) x.part(k / 6, 0, 1, 1, 0, 0);
-        for (int what = 0; what < greatest.length; what++) Bounds.due("greatest " + what, x.about(what), greatest[what]);
+        for (int what = 0; what < greatest.length; what++) {
+            Bounds.due("greatest " + what, x.about(what), greatest[what]);
+        }
         Bounds.refuses("about", (y, what) -> y.about(what), NONE,
                 -1, 8, 9, 16, 17, 18, 19, 24, 25, 100, Bounds.DEEP, Bounds.FAR);
     }

@@ -212,7 +212,9 @@ final class SignalBounds {
                 for (int other = 0; other < 4; other++) x.part(other, 0, 50, 1, 0, 0);
                 x.clear(signal);
                 for (int k = 0; k < had; k++) x.part(signal, 0, 5, 1, 0, 0);
+                Bounds.due("out ahead of it", x.out(0, 3), signal == 0 ? 5 * had : 50);
                 Bounds.due("clear with " + had, x.clear(signal), had);
+                Bounds.due("out behind it", x.out(0, 3), signal == 0 ? 0 : 50);
                 Bounds.due("then", x.about(20 + signal), 0);
                 for (int other = 0; other < 4; other++) {
                     Bounds.due("raw of " + other, x.raw(other, 0), other == signal ? 0 : 50);
@@ -379,6 +381,7 @@ final class SignalBounds {
         GreenLine x = new GreenLine();
         x.probe(0, 2, 1, 16);
         x.part(3, 0, 4, 1, 0, 0);
+        Bounds.due("of signal 0", x.out(0, 0), 0);
         Bounds.due("channel", x.channel(0, 3, 999, 15), true);
         Bounds.due("the probe stays", x.out(0, 0), 8);
         Bounds.due("the other channel stays", x.about(11) == 1 && x.about(13) == 10 && x.about(15) == 0, true);

@@ -26,7 +26,8 @@ final class SweepBounds {
     }
 
     static void triggers() {
-        Bounds.sentence(15, "At each TICK t = READY, .. T - 1: it TRIGGERS, if a begin clause is so, or there is none:");
+        Bounds.sentence(15, "At each TICK t = READY, .. T - 1: it TRIGGERS, if a begin clause is so,"
+                + " or there is none:");
         GreenLine x = Bounds.told("begin tick=99;");
         Bounds.due("at T", x.swept(99, NONE), 0);
         Bounds.due("at T - 1", x.swept(100, NONE), 1);
@@ -96,6 +97,11 @@ final class SweepBounds {
         GreenLine x = Bounds.told("begin tick=4 or tick>50;hold tick*10;");
         x.base(1, 6, 16);
         Bounds.due("asked at t, not at the beginning", x.swept(2000, 1), 4 + 6 + 20 + 40 + 6);
+        int[] begins = {0, 20, 60, 140, 300, 620, 1260};
+        for (int i = 0; i < begins.length; i++) {
+            Bounds.due("asked at each t", Bounds.told("hold tick;").swept(2000, i), begins[i]);
+        }
+        Bounds.due("no 8th: 2540", Bounds.told("hold tick;").swept(2000, NONE), begins.length);
     }
 
     static void columnsBelowT() {
@@ -285,6 +291,17 @@ final class SweepBounds {
                 + " each is GLOW * FADE / 16, cut (FADE 0 .. 16; at first 16);");
         Bounds.due("at first", new GreenLine().about(4), 16);
         Bounds.due("0 at first", new GreenLine().glow(2000, 0, 9), 0);
+        for (int row = 0; row < 16; row++) {
+            GreenLine anew = Bounds.flat(0, 10, row - 8);
+            Bounds.due("a dot", anew.glow(1, 0, row), 16);
+            Bounds.due("0 at first in each call", anew.glow(1, 0, row), 16);
+            anew.base(1, 1, 16);
+            Bounds.due("0 at first in each call", anew.glow(1, 0, row), 0);
+            anew.base(1, 0, 8);
+            for (int column = 0; column < 20; column++) {
+                Bounds.due("each dot fades", anew.glow(21, column, row), column == 0 ? 24 : 8);
+            }
+        }
         glows(16, 16, 32, 48, 64);
         glows(15, 16, 31, 45, 58);
         glows(8, 16, 24, 28, 30, 31, 31);

@@ -48,7 +48,7 @@ final class TextBounds {
         GreenLine x = new GreenLine();
         for (int k = 1; k <= 15; k++) Bounds.due("feed " + k, x.feed(0, 0, 0, 0, 0), 20 * k);
         Bounds.due("bytes", x.about(7), 300);
-        Bounds.due("the highest of a first: begin, of e last: a number", begins(0x62656769, 0x6E207469, 0x636B3E34,
+        Bounds.due("the highest of a first", begins(0x62656769, 0x6E207469, 0x636B3E34,
                 0x3B202020, 0x20202020), 5);
         Bounds.due("the lowest byte of e is the last", begins(0x62656769, 0x6E207469, 0x636B3E34,
                 0x20202020, 0x2020203B), 5);
@@ -153,9 +153,23 @@ final class TextBounds {
             Bounds.due("the text stays told", x.about(1), 0);
             Bounds.due("the text stays as it is", x.swept(9, 0), 3);
         }
-        Bounds.due("the next one", Tape.tell(x, "begin tick=5;"), 1);
+        Bounds.due("the next one", Tape.tell(x, "begin tick=5 or since=7;"), 1);
         x.by(1);
-        Bounds.due("is whole", x.swept(9, 0), 5);
+        Bounds.due("is whole", x.swept(99, 0), 5);
+        Bounds.due("and holds nothing", x.swept(99, 1), 32);
+        for (String fault : new String[] {"hold 50;begin 1=1 or", "hold 50;hold", "begin 1=1;begin not not(-(-(1+",
+            "begin not 1<2 and 1+2*(3-", "hold --------1*((((", "begin 1=1 and 1=1 and not ((((10000", "begin not x",
+            "hold -", "begin 1=2 and", "begin 1=1 or not -;"}) {
+            Bounds.due("a fault: " + fault, Tape.tell(x, fault), Bounds.NONE);
+            Bounds.due("the next one", Tape.tell(x, "begin not not not not((((1))))<2 and tick=6 or 1*since=9;"), 2);
+            x.by(2);
+            Bounds.due("is whole", x.swept(99, 0), 6);
+            Bounds.due("and holds nothing", x.swept(99, 1), 35);
+            x.back();
+            x.text();
+            x.text();
+            x.base(1, 0, 16);
+        }
     }
 
     static void textBehindFour() {
@@ -326,7 +340,10 @@ final class TextBounds {
         Bounds.sound("begin 1<2;".repeat(10));
         Bounds.faulty("begin 1<2;".repeat(11), 5, 100);
         Bounds.due("the 10th clause alone is so", Bounds.told("begin 1<1;".repeat(9) + "begin tick=4;").swept(9, 0), 4);
-        Bounds.due("the first clause alone is so", Bounds.told("begin tick=4;" + "begin 1<1;".repeat(9)).swept(9, 0), 4);
+        Bounds.due("the first clause alone is so",
+                Bounds.told("begin tick=4;" + "begin 1<1;".repeat(9)).swept(9, 0), 4);
+        Bounds.due("a clause is nothing to the next", Bounds.told("begin not 1=1;begin tick=4;").swept(9, 0), 4);
+        Bounds.due("nor is hold", Bounds.told("hold -tick;begin tick=4;").swept(9, 0), 4);
         Bounds.due("hold as the 10th", Bounds.told("begin 1<2;".repeat(9) + "hold 7;").swept(99, 1), 27);
         Bounds.faulty(";", 1, 0);
         Bounds.faulty("hold;", 1, 4);
@@ -429,7 +446,8 @@ final class TextBounds {
             "-9999*9999*9999=-" + million, "-" + million + "*(" + million + ")=-" + million,
             "-" + million + "-" + million + "=-" + million, "-(" + million + ")=-" + million,
             "-(-" + million + ")=" + million, "-9999*-9999=" + million, "9999*101=" + million,
-            "9999*100#" + million, "9999*100=9999*99+9999", million + "/1=" + million, "0-" + million + "/-1=" + million};
+            "9999*100#" + million, "9999*100=9999*99+9999", million + "/1=" + million,
+            "0-" + million + "/-1=" + million};
         for (String ask : so) Bounds.so(ask, true);
         Bounds.so(million + ">" + million + "-1", true);
         Bounds.so(million + "+1>" + million, false);
