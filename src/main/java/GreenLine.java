@@ -1278,7 +1278,8 @@ public final class GreenLine {
                 for (int c = 0; c < CHANNELS; c++) {
                     Channel channel = setup.channels[c];
                     int ahead = tick > 0 ? outs[c][tick - 1] : 0;
-                    outs[c][tick] = channel.outBehind(ahead, setup.signals[channel.signal].heightAt(tick));
+                    int raw = isSignal(channel.signal) ? setup.signals[channel.signal].heightAt(tick) : 0;
+                    outs[c][tick] = channel.outBehind(ahead, raw);
                 }
                 traced = tick + 1;
             }

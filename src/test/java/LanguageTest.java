@@ -1,3 +1,4 @@
+import java.io.DataInputStream;
 import java.lang.reflect.Constructor;
 import java.lang.reflect.Field;
 import java.lang.reflect.Method;
@@ -10,7 +11,7 @@ import java.util.List;
 import java.util.TreeSet;
 import java.util.regex.Pattern;
 
-/** The public face, and what of the language's rules can be seen in the source; run where the project stands. */
+/** The public face, and what of the language's rules can be seen in the source and the compiled classes; run where the project stands. */
 public final class LanguageTest {
 
     private static final String[] FACE = {
@@ -22,11 +23,16 @@ public final class LanguageTest {
         "int measure(int,int,int,int)", "int parting(int,int,int,int)", "int image()", "int back()", "int about(int)",
     };
 
+    /** What of the library the class calls; rule 4 allows more, so this may grow by what stands there. */
+    private static final List<String> LIBRARY = List.of("Object.<init>()V", "String.length()I", "String.charAt(I)C",
+            "Math.min(II)I", "Math.max(II)I", "Math.floorDiv(II)I", "Integer.bitCount(I)I");
+
     private static int right = 0;
     private static int wrong = 0;
 
     public static void main(String[] args) throws Exception {
         face();
+        compiled();
         source(Files.readString(Path.of("src/main/java/GreenLine.java")));
         System.out.println("LanguageTest: " + right + " passed, " + wrong + " failed");
         if (wrong > 0) System.exit(1);
@@ -83,6 +89,56 @@ public final class LanguageTest {
         due("some twelve classes", GreenLine.class.getDeclaredClasses().length < 12);
     }
 
+    /** What the compiler made of it calls no library but the allowed, and takes no more than seven parameters. */
+    private static void compiled() throws Exception {
+        List<Class<?>> classes = new ArrayList<>(Arrays.asList(GreenLine.class.getDeclaredClasses()));
+        classes.add(GreenLine.class);
+        for (Class<?> one : classes) {
+            for (String called : libraryCalls(one)) due(one + " may call " + called, LIBRARY.contains(called));
+            for (Method m : one.getDeclaredMethods()) {
+                due(m.getName() + " takes seven at most", m.getParameterCount() <= 7);
+            }
+            for (Field f : one.getDeclaredFields()) {
+                due(f.getName() + " of " + one + " is no state of all objects",
+                        !Modifier.isStatic(f.getModifiers()) || Modifier.isFinal(f.getModifiers()));
+            }
+        }
+    }
+
+    /** The methods of the library that a class's table of constants names. */
+    private static List<String> libraryCalls(Class<?> one) throws Exception {
+        List<String> calls = new ArrayList<>();
+        try (DataInputStream in = new DataInputStream(one.getResourceAsStream(one.getName() + ".class"))) {
+            in.readLong();
+            int count = in.readUnsignedShort();
+            int[] kinds = new int[count];
+            int[] firsts = new int[count];
+            int[] seconds = new int[count];
+            String[] words = new String[count];
+            for (int k = 1; k < count; k++) {
+                kinds[k] = in.readUnsignedByte();
+                switch (kinds[k]) {
+                    case 1: words[k] = in.readUTF(); break;
+                    case 3: case 4: in.readInt(); break;
+                    case 5: case 6: in.readLong(); k++; break;
+                    case 7: case 8: case 16: case 19: case 20: firsts[k] = in.readUnsignedShort(); break;
+                    case 9: case 10: case 11: case 12:
+                        firsts[k] = in.readUnsignedShort();
+                        seconds[k] = in.readUnsignedShort();
+                        break;
+                    default: calls.add("a constant of kind " + kinds[k]); return calls;
+                }
+            }
+            for (int k = 1; k < count; k++) {
+                if (kinds[k] != 10 && kinds[k] != 11) continue;
+                String owner = words[firsts[firsts[k]]];
+                String called = words[firsts[seconds[k]]] + words[seconds[seconds[k]]];
+                if (!owner.startsWith("GreenLine")) calls.add(owner.replace("java/lang/", "") + "." + called);
+            }
+        }
+        return calls;
+    }
+
     private static void source(String source) {
         String code = source.replaceAll("(?s)/\\*.*?\\*/", "").replaceAll("//[^\n]*", "");
         String[] words = {"throw", "throws", "try", "catch", "synchronized", "assert", "import", "package", "protected",
@@ -93,6 +149,22 @@ public final class LanguageTest {
         due("no lambda, no method reference", !code.contains("->") && !code.contains("::"));
         due("signs are 1 to 127", source.chars().allMatch(c -> c < 128));
         due("nothing is made but in constructors and fields", madeInMethods(code).isEmpty());
+        due("methods have some sixty lines", longestMethod(code) <= 60);
+    }
+
+    /** How many lines the longest method has; a line that opens one ends with a bracket and a brace. */
+    private static int longestMethod(String code) {
+        int longest = 0;
+        String[] lines = code.split("\n");
+        for (int k = 0; k < lines.length; k++) {
+            if (!lines[k].matches(" {4}(    )?\\w.*\\) \\{")) continue;
+            String end = lines[k].replaceAll("\\S.*", "") + "}";
+            int last = k;
+            while (last < lines.length && !lines[last].equals(end)) last++;
+            longest = Math.max(longest, last - k + 1);
+        }
+        due("methods are found", longest > 20);
+        return longest;
     }
 
     /** Lines that make something, other than a field's, or an element's in a constructor. */
